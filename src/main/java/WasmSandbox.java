@@ -668,8 +668,8 @@ public final class WasmSandbox {
             return true;
         }
         int opener = DRAFT_CODE + frameAt[top];
-        // Frame 0 is the body, whose first byte may be an IF of its own.
-        if (top > 0 && wants != NONE && code[opener] == IF && partner[opener] == at) {
+        // An IF that has an ELSE is paired with that instead.
+        if (wants != NONE && code[opener] == IF && partner[opener] == at) {
             return false;
         }
         frameCount--;

@@ -295,6 +295,9 @@ public final class RunTest {
         Kit.due("print at depth 10", x.printed(-1), 1);
         Kit.traps("11 active", x, 0, 1, WasmSandbox.DEPTH, 19, 10);
         Kit.due("used by 11 active", x.used(), 9);
+        for (int i = 0; i < 100; i++) {
+            Kit.traps("11 active again", x, 0, 1, WasmSandbox.DEPTH, 19, 10);
+        }
         Kit.gives("the next run begins at depth 1", x, 0, 1, 0, 9);
     }
 
@@ -344,5 +347,13 @@ public final class RunTest {
         Kit.due("the host through slot 0 uses no fuel", x.used(), 0);
         Kit.traps("FUEL across", x, 1, 4, WasmSandbox.FUEL, 1037, 6);
         Kit.traps("DEPTH in slot 1", x, 1, 5, WasmSandbox.DEPTH, 1048, 6);
+        int[] seven = Kit.join(Kit.b(2, 0, 1, 1, 1, 1, 0, 3, 1, 16, 0, 17, 1, 16), Kit.list(Kit.function(0, Kit.INT, 3), Kit.function(0, Kit.INT, 4),
+            Kit.function(0, Kit.INT, 5), Kit.function(0, Kit.INT, 6)), Kit.NOTHING_BEHIND);
+        Kit.loads("seven functions", x, 0, WasmSandbox.OK, -1, seven);
+        for (int what = 3; what <= 6; what++) {
+            int[] caller = Kit.join(Kit.b(1, 0, 1, 1, 1, 0, what), Kit.list(Kit.function(0, Kit.CALL, 0)), Kit.NOTHING_BEHIND);
+            Kit.loads("function " + what, x, 1, WasmSandbox.OK, -1, caller);
+            Kit.gives("function " + what, x, 1, 1, what);
+        }
     }
 }

@@ -45,6 +45,8 @@ public final class ValidateTest {
         badBody("label 255", 0, Kit.BR, 255);
         fineBody("the outermost label of two", Kit.BLOCK, 0, Kit.BR, 1, Kit.END);
         badBody("a function that is not there", 0, Kit.CALL, 1);
+        WasmSandbox x = Kit.loaded("two functions", Kit.join(Kit.b(1, 0, 0, 0), Kit.list(Kit.function(0), Kit.function(0)), Kit.NOTHING_BEHIND));
+        Kit.loads("a function that was there in the module before", x, 0, WasmSandbox.INVALID, WITHOUT, Kit.single(NONE, 0, Kit.CALL, 1));
         badBody("a type that is not there", 2, Kit.INT, 0, Kit.CALL_INDIRECT, 1);
         badBody("a variable that is not there", 0, Kit.GET, 0);
         badBody("the same with SET", 2, Kit.INT, 0, Kit.SET, 0);
@@ -85,6 +87,8 @@ public final class ValidateTest {
         fineBody("20 on the stack and a block's result for one", Kit.join(many(19, Kit.INT, 0), Kit.b(Kit.BLOCK, 1, Kit.INT, 0, Kit.END), many(20, Kit.DROP)));
         badBody("20 around a block with one more", 42, Kit.join(many(20, Kit.INT, 0), Kit.b(Kit.BLOCK, 0, Kit.INT, 0, Kit.DROP, Kit.END), many(20, Kit.DROP)));
         badBody("20 and the result of a dead block", 43, Kit.join(many(20, Kit.INT, 0), Kit.b(Kit.BLOCK, 1, Kit.TRAP, Kit.END), many(21, Kit.DROP)));
+        Kit.loaded("each body has a stack of its own", Kit.join(Kit.b(1, 0, 1, 1, 0), Kit.list(Kit.function(0, Kit.INT, 0),
+            Kit.function(0, Kit.join(many(20, Kit.INT, 0), many(19, Kit.ADD)))), Kit.NOTHING_BEHIND));
         int[] calls = Kit.b(2, 2, 1, 2, 1, 2, 0, 0, 0, 2);
         int[] callee = Kit.function(0, Kit.GET, 1);
         Kit.loaded("a CALL", Kit.join(calls, callee, Kit.function(1, Kit.INT, 0, Kit.LONG, 0, Kit.CALL, 0, Kit.DROP), Kit.NOTHING_BEHIND));
@@ -218,6 +222,7 @@ public final class ValidateTest {
         Kit.loads("print of two", x, 0, WasmSandbox.LINK, 7, Kit.join(Kit.b(1, 2, 1, 1, 0), Kit.b(1, 0, 16), end));
         Kit.loads("input of a long", x, 0, WasmSandbox.LINK, 6, Kit.join(Kit.b(1, 0, 1, 2), Kit.b(1, 0, 17), end));
         Kit.loads("input with a parameter", x, 0, WasmSandbox.LINK, 7, Kit.join(Kit.b(1, 1, 1, 1, 1), Kit.b(1, 0, 17), end));
+        Kit.loads("input without a result", x, 0, WasmSandbox.LINK, 5, Kit.join(Kit.b(1, 0, 0), Kit.b(1, 0, 17), end));
         Kit.loads("the second import", x, 0, WasmSandbox.LINK, 8, Kit.join(print, Kit.b(2, 0, 16, 0, 18), end));
         Kit.loads("the first of two", x, 0, WasmSandbox.LINK, 6, Kit.join(print, Kit.b(2, 0, 15, 0, 18), end));
         for (int what : new int[] {0, 6, 7, 15, 18, 255}) {
