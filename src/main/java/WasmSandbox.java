@@ -76,7 +76,7 @@ public final class WasmSandbox {
     private int valueCount = 0;
     private final long[] variables = new long[ALL_VARIABLES];
     private final int[] activeSlot = new int[MOST_ACTIVE];
-    private final int[] activeFunction = new int[MOST_ACTIVE];
+    private final int[] activeGives = new int[MOST_ACTIVE];
     private final int[] activeFrame = new int[MOST_ACTIVE];
     private final int[] activeResume = new int[MOST_ACTIVE];
     private int activeCount = 0;
@@ -150,7 +150,7 @@ public final class WasmSandbox {
         if (!isSlot(slot) || !loaded[slot]) {
             return BAD;
         }
-        if (f < facts[slot * FACTS + IMPORTS] || f >= facts[slot * FACTS + FUNCTIONS]) {
+        if (f < fact(slot, IMPORTS) || f >= fact(slot, FUNCTIONS)) {
             return BAD;
         }
         outcome = RUNNING;
@@ -165,6 +165,10 @@ public final class WasmSandbox {
         at = goesOn;
         for (int i = 0; i < MOST_STEPS && outcome == RUNNING; i++) {
             step();
+        }
+        if (outcome != DONE) {
+            int active = last(activeCount, MOST_ACTIVE);
+            trapPlace = 1000 * activeSlot[active] + at;
         }
         return outcome;
     }
@@ -182,14 +186,14 @@ public final class WasmSandbox {
     }
 
     public int memory(int slot, int i) {
-        if (!isSlot(slot) || !loaded[slot] || facts[slot * FACTS + MEMORY] == 0) {
+        if (!isSlot(slot) || !loaded[slot] || fact(slot, MEMORY) == 0) {
             return -1;
         }
         return i < 0 || i >= MEMORY_BYTES ? -1 : memories[slot * MEMORY_BYTES + i];
     }
 
     public long global(int slot, int g) {
-        if (!isSlot(slot) || !loaded[slot] || g < 0 || g >= facts[slot * FACTS + GLOBALS]) {
+        if (!isSlot(slot) || !loaded[slot] || g < 0 || g >= fact(slot, GLOBALS)) {
             return 0;
         }
         return globals[slot * MOST_GLOBALS + g];
@@ -220,51 +224,61 @@ public final class WasmSandbox {
         return slot == 0 || slot == 1;
     }
 
+    /* The last of so many things in an array of this length. */
+    private static int last(int count, int length) {
+        return count < 1 ? 0 : count > length ? length - 1 : count - 1;
+    }
+
     private int byteAt(int m, int p) {
-        return p < 0 || p >= MOST_BYTES ? 0 : code[m * MOST_BYTES + p];
+        return m < 0 || m > DRAFT || p < 0 || p >= MOST_BYTES ? 0 : code[m * MOST_BYTES + p];
+    }
+
+    private int partnerOf(int m, int p) {
+        return m < 0 || m > DRAFT || p < 0 || p >= MOST_BYTES ? 0 : partner[m * MOST_BYTES + p];
+    }
+
+    private int fact(int m, int which) {
+        return m < 0 || m > DRAFT || which < 0 || which >= FACTS ? 0 : facts[m * FACTS + which];
     }
 
     private int typeOf(int m, int f) {
-        return code[m * MOST_BYTES + facts[m * FACTS + FUNCTION_AT + f]];
-    }
-
-    /* Where a type stands in the code of all modules. */
-    private int typeStart(int m, int type) {
-        return m * MOST_BYTES + facts[m * FACTS + TYPE_AT + type];
+        int p = fact(m, FUNCTION_AT + f);
+        return byteAt(m, p);
     }
 
     private int resultOf(int m, int type) {
-        int start = m * MOST_BYTES + facts[m * FACTS + TYPE_AT + type];
-        int r = start + 1 + code[start];
-        return code[r] == 0 ? NONE : code[r + 1];
+        int start = fact(m, TYPE_AT + type);
+        int r = start + 1 + byteAt(m, start);
+        return byteAt(m, r) == 0 ? NONE : byteAt(m, r + 1);
     }
 
     /* NONE if the draft's function f has no variable v. */
     private int variableKind(int f, int v) {
-        int type = typeOf(DRAFT, f);
-        int start = typeStart(DRAFT, type);
-        int parameters = code[start];
+        int p = fact(DRAFT, FUNCTION_AT + f);
+        int type = byteAt(DRAFT, p);
+        int start = fact(DRAFT, TYPE_AT + type);
+        int parameters = byteAt(DRAFT, start);
         if (v < parameters) {
-            return code[start + 1 + v];
+            return byteAt(DRAFT, start + 1 + v);
         }
-        int localsAt = facts[DRAFT_FACTS + FUNCTION_AT + f] + 1;
+        int locals = byteAt(DRAFT, p + 1);
         int local = v - parameters;
-        return local < byteAt(DRAFT, localsAt) ? byteAt(DRAFT, localsAt + 1 + local) : NONE;
+        return local < locals ? byteAt(DRAFT, p + 2 + local) : NONE;
     }
 
     private int bodyOf(int m, int f) {
-        int localsAt = facts[m * FACTS + FUNCTION_AT + f] + 1;
+        int localsAt = fact(m, FUNCTION_AT + f) + 1;
         return localsAt + 1 + byteAt(m, localsAt);
     }
 
     /* A type has but one form in bytes, and no form begins another, so equal bytes mean equal types. */
     private boolean sameType(int m, int type, int otherM, int otherType) {
-        int one = typeStart(m, type);
-        int other = typeStart(otherM, otherType);
-        int parameters = code[one];
-        int length = 2 + parameters + code[one + 1 + parameters];
+        int one = fact(m, TYPE_AT + type);
+        int other = fact(otherM, TYPE_AT + otherType);
+        int parameters = byteAt(m, one);
+        int length = 2 + parameters + byteAt(m, one + 1 + parameters);
         for (int i = 0; i < length; i++) {
-            if (code[one + i] != code[other + i]) {
+            if (byteAt(m, one + i) != byteAt(otherM, other + i)) {
                 return false;
             }
         }
@@ -311,7 +325,7 @@ public final class WasmSandbox {
 
     /* -1 if the next byte is not there or outside its limits; else it is read. */
     private int readByte(int least, int most) {
-        if (at >= byteCount) {
+        if (at < 0 || at >= byteCount || at >= MOST_BYTES) {
             return -1;
         }
         int b = code[DRAFT_CODE + at];
@@ -378,7 +392,7 @@ public final class WasmSandbox {
 
     private boolean readFunctions() {
         int n = readByte(0, MOST_FUNCTIONS);
-        int first = facts[DRAFT_FACTS + IMPORTS];
+        int first = fact(DRAFT, IMPORTS);
         facts[DRAFT_FACTS + FUNCTIONS] = first + n;
         for (int i = 0; i < n; i++) {
             facts[DRAFT_FACTS + FUNCTION_AT + first + i] = at;
@@ -406,9 +420,7 @@ public final class WasmSandbox {
             case BLOCK:
             case LOOP:
             case IF:
-                frameAt[frameCount] = start;
-                partner[DRAFT_CODE + start] = 0;
-                frameCount++;
+                openRead(start);
                 return readByte(NONE, LONG) >= 0;
             case ELSE:
                 return pairElse(start);
@@ -427,28 +439,39 @@ public final class WasmSandbox {
         }
     }
 
+    private void openRead(int start) {
+        if (frameCount < ALL_FRAMES) {
+            frameAt[frameCount] = start;
+            frameCount++;
+        }
+        pair(start, 0);
+    }
+
+    private void pair(int p, int other) {
+        if (p >= 0 && p < MOST_BYTES) {
+            partner[DRAFT_CODE + p] = other;
+        }
+    }
+
     private boolean pairElse(int start) {
+        int top = last(frameCount, ALL_FRAMES);
+        int opener = frameAt[top];
         // The body's own frame has no opening byte, and no ELSE fits it.
-        if (frameCount > 1) {
-            int opener = DRAFT_CODE + frameAt[frameCount - 1];
-            if (code[opener] == IF && partner[opener] == 0) {
-                partner[opener] = start;
-                return true;
-            }
+        if (top > 0 && byteAt(DRAFT, opener) == IF && partnerOf(DRAFT, opener) == 0) {
+            pair(opener, start);
+            return true;
         }
         at = start;
         return false;
     }
 
     private void pairEnd(int start) {
-        frameCount--;
-        if (frameCount > 0) {
-            int opener = DRAFT_CODE + frameAt[frameCount];
-            if (partner[opener] == 0) {
-                partner[opener] = start;
-            } else {
-                partner[DRAFT_CODE + partner[opener]] = start;
-            }
+        int top = last(frameCount, ALL_FRAMES);
+        frameCount = top;
+        if (top > 0) {
+            int opener = frameAt[top];
+            int other = partnerOf(DRAFT, opener);
+            pair(other == 0 ? opener : other, start);
         }
     }
 
@@ -495,10 +518,10 @@ public final class WasmSandbox {
     // ---- Validation: each method stops with false where "at" is the place of the fault
 
     private boolean checkImports() {
-        int n = facts[DRAFT_FACTS + IMPORTS];
+        int n = fact(DRAFT, IMPORTS);
         for (int i = 0; i < n; i++) {
-            at = facts[DRAFT_FACTS + FUNCTION_AT + i];
-            if (byteAt(DRAFT, at) >= facts[DRAFT_FACTS + TYPES]) {
+            at = fact(DRAFT, FUNCTION_AT + i);
+            if (byteAt(DRAFT, at) >= fact(DRAFT, TYPES)) {
                 return false;
             }
         }
@@ -506,11 +529,11 @@ public final class WasmSandbox {
     }
 
     private boolean checkFunctions() {
-        int n = facts[DRAFT_FACTS + FUNCTIONS];
-        for (int f = facts[DRAFT_FACTS + IMPORTS]; f < n; f++) {
-            at = facts[DRAFT_FACTS + FUNCTION_AT + f];
+        int n = fact(DRAFT, FUNCTIONS);
+        for (int f = fact(DRAFT, IMPORTS); f < n; f++) {
+            at = fact(DRAFT, FUNCTION_AT + f);
             int type = byteAt(DRAFT, at);
-            if (type >= facts[DRAFT_FACTS + TYPES]) {
+            if (type >= fact(DRAFT, TYPES)) {
                 return false;
             }
             at = bodyOf(DRAFT, f);
@@ -529,11 +552,11 @@ public final class WasmSandbox {
     }
 
     private boolean checkEntries() {
-        int n = facts[DRAFT_FACTS + ENTRIES];
+        int n = fact(DRAFT, ENTRIES);
         for (int i = 0; i < n; i++) {
-            at = facts[DRAFT_FACTS + ENTRIES_AT] + i;
+            at = fact(DRAFT, ENTRIES_AT) + i;
             int f = byteAt(DRAFT, at);
-            if (f >= facts[DRAFT_FACTS + FUNCTIONS] && f != NO_FUNCTION) {
+            if (f >= fact(DRAFT, FUNCTIONS) && f != NO_FUNCTION) {
                 return false;
             }
         }
@@ -541,10 +564,10 @@ public final class WasmSandbox {
     }
 
     private boolean checkData() {
-        if (facts[DRAFT_FACTS + MEMORY] == 0) {
+        if (fact(DRAFT, MEMORY) == 0) {
             return true;
         }
-        at = facts[DRAFT_FACTS + DATA_AT];
+        at = fact(DRAFT, DATA_AT);
         int n = byteAt(DRAFT, at);
         at++;
         for (int i = 0; i < n; i++) {
@@ -608,7 +631,7 @@ public final class WasmSandbox {
         if (kind == NONE) {
             return true;
         }
-        int top = frameCount - 1;
+        int top = last(frameCount, MOST_OPEN);
         if (kindCount <= frameHeight[top]) {
             return frameDead[top];
         }
@@ -618,7 +641,7 @@ public final class WasmSandbox {
 
     /* The kind that is there, whatever it is; NONE if there is none. */
     private int takeTop() {
-        int top = frameCount - 1;
+        int top = last(frameCount, MOST_OPEN);
         if (kindCount <= frameHeight[top]) {
             return frameDead[top] ? ANY : NONE;
         }
@@ -639,7 +662,7 @@ public final class WasmSandbox {
     }
 
     private boolean goDead() {
-        int top = frameCount - 1;
+        int top = last(frameCount, MOST_OPEN);
         frameDead[top] = true;
         kindCount = frameHeight[top];
         return true;
@@ -658,7 +681,7 @@ public final class WasmSandbox {
     }
 
     private boolean checkEnd(int op) {
-        int top = frameCount - 1;
+        int top = last(frameCount, MOST_OPEN);
         int wants = frameResult[top];
         if (!take(wants) || kindCount != frameHeight[top]) {
             return false;
@@ -667,9 +690,9 @@ public final class WasmSandbox {
             frameDead[top] = false;
             return true;
         }
-        int opener = DRAFT_CODE + frameAt[top];
+        int opener = frameAt[top];
         // An IF that has an ELSE is paired with that instead.
-        if (wants != NONE && code[opener] == IF && partner[opener] == at) {
+        if (wants != NONE && byteAt(DRAFT, opener) == IF && partnerOf(DRAFT, opener) == at) {
             return false;
         }
         frameCount--;
@@ -679,7 +702,7 @@ public final class WasmSandbox {
     /* -1 if there is no label d. */
     private int labelWants(int d) {
         int frame = frameCount - 1 - d;
-        if (frame < 0) {
+        if (frame < 0 || frame >= MOST_OPEN) {
             return -1;
         }
         // Frame 0 is the body, whose first byte may be a LOOP of its own.
@@ -714,19 +737,20 @@ public final class WasmSandbox {
     }
 
     private boolean checkCall(int op, int operand) {
-        if (op == CALL && operand >= facts[DRAFT_FACTS + FUNCTIONS]) {
+        if (op == CALL && operand >= fact(DRAFT, FUNCTIONS)) {
             return false;
         }
         int type = op == CALL ? typeOf(DRAFT, operand) : operand;
-        if (type >= facts[DRAFT_FACTS + TYPES]) {
+        if (type >= fact(DRAFT, TYPES)) {
             return false;
         }
         if (op == CALL_INDIRECT && !take(INT)) {
             return false;
         }
-        int start = typeStart(DRAFT, type);
-        for (int i = code[start]; i > 0; i--) {
-            if (!take(code[start + i])) {
+        int start = fact(DRAFT, TYPE_AT + type);
+        for (int i = byteAt(DRAFT, start); i > 0; i--) {
+            int kind = byteAt(DRAFT, start + i);
+            if (!take(kind)) {
                 return false;
             }
         }
@@ -761,10 +785,10 @@ public final class WasmSandbox {
     }
 
     private boolean checkGlobal(int op, int g) {
-        if (g >= facts[DRAFT_FACTS + GLOBALS]) {
+        if (g >= fact(DRAFT, GLOBALS)) {
             return false;
         }
-        int start = facts[DRAFT_FACTS + GLOBAL_AT + g];
+        int start = fact(DRAFT, GLOBAL_AT + g);
         int kind = byteAt(DRAFT, start);
         if (op == GGET) {
             return give(kind);
@@ -773,7 +797,7 @@ public final class WasmSandbox {
     }
 
     private boolean checkAccess(int op) {
-        if (facts[DRAFT_FACTS + MEMORY] == 0) {
+        if (fact(DRAFT, MEMORY) == 0) {
             return false;
         }
         int kind = op == LOAD64 || op == STORE64 ? LONG : INT;
@@ -801,9 +825,9 @@ public final class WasmSandbox {
     // ---- Linking
 
     private boolean checkLinks(int slot) {
-        int n = facts[DRAFT_FACTS + IMPORTS];
+        int n = fact(DRAFT, IMPORTS);
         for (int i = 0; i < n; i++) {
-            at = facts[DRAFT_FACTS + FUNCTION_AT + i] + 1;
+            at = fact(DRAFT, FUNCTION_AT + i) + 1;
             int type = typeOf(DRAFT, i);
             int what = byteAt(DRAFT, at);
             if (!fits(slot, type, what)) {
@@ -814,14 +838,17 @@ public final class WasmSandbox {
     }
 
     private boolean fits(int slot, int type, int what) {
-        int start = typeStart(DRAFT, type);
+        int start = fact(DRAFT, TYPE_AT + type);
+        int parameters = byteAt(DRAFT, start);
+        int second = byteAt(DRAFT, start + 1);
+        int third = byteAt(DRAFT, start + 2);
         if (what == PRINT) {
-            return code[start] == 1 && code[start + 1] == INT && code[start + 2] == 0;
+            return parameters == 1 && second == INT && third == 0;
         }
         if (what == INPUT) {
-            return code[start] == 0 && code[start + 1] == 1 && code[start + 2] == INT;
+            return parameters == 0 && second == 1 && third == INT;
         }
-        if (slot != 1 || what > LAST_FOREIGN || !loaded[0] || what >= facts[FUNCTIONS]) {
+        if (slot != 1 || what > LAST_FOREIGN || !loaded[0] || what >= fact(0, FUNCTIONS)) {
             return false;
         }
         int foreignType = typeOf(0, what);
@@ -839,9 +866,9 @@ public final class WasmSandbox {
     }
 
     private void setGlobals(int slot) {
-        int n = facts[slot * FACTS + GLOBALS];
+        int n = fact(slot, GLOBALS);
         for (int g = 0; g < n; g++) {
-            int start = facts[slot * FACTS + GLOBAL_AT + g];
+            int start = fact(slot, GLOBAL_AT + g);
             int kind = byteAt(slot, start);
             globals[slot * MOST_GLOBALS + g] = constAt(slot, start + 2, kind);
         }
@@ -852,8 +879,8 @@ public final class WasmSandbox {
         for (int i = 0; i < MEMORY_BYTES; i++) {
             memories[base + i] = 0;
         }
-        int p = facts[slot * FACTS + DATA_AT];
-        int n = facts[slot * FACTS + MEMORY] == 0 ? 0 : byteAt(slot, p);
+        int p = fact(slot, DATA_AT);
+        int n = fact(slot, MEMORY) == 0 ? 0 : byteAt(slot, p);
         p++;
         for (int i = 0; i < n; i++) {
             int offset = byteAt(slot, p);
@@ -882,14 +909,9 @@ public final class WasmSandbox {
         return values[valueCount];
     }
 
-    private void trap(int why) {
-        outcome = why;
-        trapPlace = 1000 * activeSlot[activeCount - 1] + at;
-    }
-
     private boolean useFuel() {
         if (fuelUsed >= MOST_FUEL) {
-            trap(FUEL);
+            outcome = FUEL;
             return false;
         }
         fuelUsed++;
@@ -898,25 +920,29 @@ public final class WasmSandbox {
 
     private void pushArguments(int slot, int f, long a, long b, long c) {
         int type = typeOf(slot, f);
-        int start = typeStart(slot, type);
-        int n = code[start];
+        int start = fact(slot, TYPE_AT + type);
+        int n = byteAt(slot, start);
         for (int i = 0; i < n; i++) {
+            int kind = byteAt(slot, start + 1 + i);
             long v = i == 0 ? a : i == 1 ? b : c;
-            push(code[start + 1 + i] == INT ? (int) v : v);
+            push(kind == INT ? (int) v : v);
         }
     }
 
     /* Makes a function of a module the active one; its arguments lie on the stack. */
     private void begin(int slot, int f) {
+        if (activeCount >= MOST_ACTIVE) {
+            return;
+        }
         int type = typeOf(slot, f);
-        int start = typeStart(slot, type);
-        int n = code[start];
+        int start = fact(slot, TYPE_AT + type);
+        int n = byteAt(slot, start);
         int base = activeCount * MOST_VARIABLES;
         for (int i = MOST_VARIABLES - 1; i >= 0; i--) {
             variables[base + i] = i < n ? pop() : 0;
         }
         activeSlot[activeCount] = slot;
-        activeFunction[activeCount] = f;
+        activeGives[activeCount] = resultOf(slot, type);
         activeFrame[activeCount] = frameCount;
         activeCount++;
         goesOn = bodyOf(slot, f);
@@ -932,7 +958,8 @@ public final class WasmSandbox {
     }
 
     private void step() {
-        int slot = activeSlot[activeCount - 1];
+        int active = last(activeCount, MOST_ACTIVE);
+        int slot = activeSlot[active];
         int op = byteAt(slot, at);
         int operand = byteAt(slot, at + 1);
         goesOn = behind(slot, at);
@@ -949,13 +976,16 @@ public final class WasmSandbox {
         } else {
             runConversion(op);
         }
-        at = goesOn;
+        // A trap leaves the place at the instruction that raised it.
+        if (outcome == RUNNING) {
+            at = goesOn;
+        }
     }
 
     private void runControl(int slot, int op, int operand) {
         switch (op) {
             case TRAP:
-                trap(UNREACHABLE);
+                outcome = UNREACHABLE;
                 break;
             case BLOCK:
             case LOOP:
@@ -966,14 +996,10 @@ public final class WasmSandbox {
                 break;
             case ELSE:
                 // The first part is through: what follows is the END.
-                goesOn = partner[slot * MOST_BYTES + at];
+                goesOn = partnerOf(slot, at);
                 break;
             case END:
-                if (frameCount - 1 > activeFrame[activeCount - 1]) {
-                    frameCount--;
-                } else {
-                    leave(slot);
-                }
+                runEnd();
                 break;
             case BR:
                 branch(slot, operand);
@@ -989,7 +1015,7 @@ public final class WasmSandbox {
                 branch(slot, d);
                 break;
             case RETURN:
-                leave(slot);
+                leave();
                 break;
             default:
                 break;
@@ -1000,15 +1026,25 @@ public final class WasmSandbox {
         boolean first = pop() != 0;
         openRun(at);
         if (!first) {
-            int other = partner[slot * MOST_BYTES + at];
+            int other = partnerOf(slot, at);
             goesOn = byteAt(slot, other) == ELSE ? other + 1 : other;
         }
     }
 
+    private void runEnd() {
+        int active = last(activeCount, MOST_ACTIVE);
+        if (frameCount - 1 > activeFrame[active]) {
+            frameCount--;
+        } else {
+            leave();
+        }
+    }
+
     private void branch(int slot, int d) {
-        int frame = frameCount - 1 - d;
-        if (frame <= activeFrame[activeCount - 1]) {
-            leave(slot);
+        int frame = last(frameCount, ALL_FRAMES) - d;
+        int active = last(activeCount, MOST_ACTIVE);
+        if (frame <= activeFrame[active]) {
+            leave();
             return;
         }
         int opener = frameAt[frame];
@@ -1027,30 +1063,31 @@ public final class WasmSandbox {
         if (wants != NONE) {
             push(kept);
         }
-        int end = partner[slot * MOST_BYTES + opener];
+        int end = partnerOf(slot, opener);
         if (byteAt(slot, end) == ELSE) {
-            end = partner[slot * MOST_BYTES + end];
+            end = partnerOf(slot, end);
         }
         goesOn = end + 1;
     }
 
     /* Ends the active function; its result, if it has one, is on top of the stack. */
-    private void leave(int slot) {
-        activeCount--;
-        int type = typeOf(slot, activeFunction[activeCount]);
-        int gives = resultOf(slot, type);
-        long kept = gives == NONE ? 0 : pop();
-        frameCount = activeFrame[activeCount];
-        valueCount = frameHeight[frameCount];
-        if (activeCount == 0) {
+    private void leave() {
+        int active = last(activeCount, MOST_ACTIVE);
+        boolean gives = activeGives[active] != NONE;
+        long kept = gives ? pop() : 0;
+        int bottom = activeFrame[active];
+        valueCount = frameHeight[bottom];
+        frameCount = bottom;
+        activeCount = active;
+        if (active == 0) {
             outcome = DONE;
             resultValue = kept;
             return;
         }
-        if (gives != NONE) {
+        if (gives) {
             push(kept);
         }
-        goesOn = activeResume[activeCount - 1];
+        goesOn = activeResume[active - 1];
     }
 
     private void runCall(int slot, int op, int operand) {
@@ -1069,36 +1106,39 @@ public final class WasmSandbox {
         if (what >= 0) {
             runHost(what);
         } else if (activeCount >= MOST_ACTIVE) {
-            trap(DEPTH);
+            outcome = DEPTH;
         } else if (useFuel()) {
-            activeResume[activeCount - 1] = goesOn;
+            int active = last(activeCount, MOST_ACTIVE);
+            activeResume[active] = goesOn;
             begin(home, f);
         }
     }
 
     /* What an import names; -1 for a function of the module itself. */
     private int foreign(int m, int f) {
-        if (f >= facts[m * FACTS + IMPORTS]) {
+        if (f >= fact(m, IMPORTS)) {
             return -1;
         }
-        return byteAt(m, facts[m * FACTS + FUNCTION_AT + f] + 1);
+        int p = fact(m, FUNCTION_AT + f);
+        return byteAt(m, p + 1);
     }
 
     /* The function of the table entry on top of the stack; -1 after a trap. */
     private int pickEntry(int slot, int type) {
         long i = pop() & LOW_32;
-        if (i >= facts[slot * FACTS + ENTRIES]) {
-            trap(TABLE);
+        if (i >= fact(slot, ENTRIES)) {
+            outcome = TABLE;
             return -1;
         }
-        int f = byteAt(slot, facts[slot * FACTS + ENTRIES_AT] + (int) i);
+        int first = fact(slot, ENTRIES_AT);
+        int f = byteAt(slot, first + (int) i);
         if (f == NO_FUNCTION) {
-            trap(EMPTY);
+            outcome = EMPTY;
             return -1;
         }
         int itsType = typeOf(slot, f);
         if (!sameType(slot, itsType, slot, type)) {
-            trap(SIGNATURE);
+            outcome = SIGNATURE;
             return -1;
         }
         return f;
@@ -1119,7 +1159,7 @@ public final class WasmSandbox {
 
     private void runSimple(int slot, int op, int operand) {
         // Validation lets no other numbers through; the remainders only keep the indices in sight.
-        int variable = (activeCount - 1) * MOST_VARIABLES + operand % MOST_VARIABLES;
+        int variable = last(activeCount, MOST_ACTIVE) * MOST_VARIABLES + operand % MOST_VARIABLES;
         int globalAt = slot * MOST_GLOBALS + operand % MOST_GLOBALS;
         switch (op) {
             case DROP:
@@ -1164,7 +1204,7 @@ public final class WasmSandbox {
         long address = (pop() & LOW_32) + offset;
         int length = op == LOAD8 || op == STORE8 ? 1 : op == LOAD32 || op == STORE32 ? 4 : 8;
         if (address + length > MEMORY_BYTES) {
-            trap(BOUNDS);
+            outcome = BOUNDS;
             return;
         }
         int start = slot * MEMORY_BYTES + (int) address;
@@ -1203,9 +1243,9 @@ public final class WasmSandbox {
             boolean holds = compare(plain, x, y);
             push(holds ? 1 : 0);
         } else if (plain >= DIV && plain <= REM && y == 0) {
-            trap(DIVIDE);
+            outcome = DIVIDE;
         } else if (plain == DIV && y == -1 && x == (kind == INT ? LEAST_INT : LEAST_LONG)) {
-            trap(OVERFLOW);
+            outcome = OVERFLOW;
         } else if (plain >= SHL) {
             long v = shift(plain, kind, x, y);
             push(v);
