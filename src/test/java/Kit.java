@@ -13,14 +13,20 @@ final class Kit {
     static final int[] NO_TYPES = {0}, NO_IMPORTS = {0}, NO_GLOBALS = {0}, NO_TABLE = {0}, NO_MEMORY = {0}, NOTHING_BEHIND = {0, 0, 0};
 
     private static int wrong = 0;
+    private static String sentence = "";
 
     private Kit() {
+    }
+
+    /** What follows tests this sentence of the document. */
+    static void sentence(String words) {
+        sentence = "\"" + words + "\": ";
     }
 
     static void due(String what, long got, long want) {
         if (got != want) {
             wrong++;
-            System.out.println(what + " answered " + got + ", due is " + want);
+            System.out.println(sentence + what + " answered " + got + ", due is " + want);
         }
     }
 
@@ -37,6 +43,23 @@ final class Kit {
 
     static int[] b(int... bytes) {
         return bytes;
+    }
+
+    /** The instruction that gives this int, in as few bytes as it can. */
+    static int[] number(int v) {
+        int[] all = {INT};
+        while (v < -64 || v > 63) {
+            all = join(all, b(v & 127 | 128));
+            v >>= 7;
+        }
+        return join(all, b(v & 127));
+    }
+
+    /** The same bytes n times. */
+    static int[] many(int n, int... bytes) {
+        int[][] parts = new int[n][];
+        java.util.Arrays.fill(parts, bytes);
+        return join(parts);
     }
 
     static int[] join(int[]... parts) {

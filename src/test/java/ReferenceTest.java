@@ -5,13 +5,16 @@ import java.util.Random;
 
 /** All promises: random calls (from a fixed seed), each answered by the class and by Reference. */
 public final class ReferenceTest {
-    private static final int OBJECTS = 25000;
+    private static final int OBJECTS = 40000;
+    // No object gets more calls than the document allows; the last look at its state takes 128 of them.
+    private static final int CALLS = 512, LOOK = 128, BYTES = 160, INVOKE = 4;
     private static final long[] NUMBERS = {0, 1, 2, 3, 7, 44, 48, -1, 255, Integer.MIN_VALUE, Integer.MAX_VALUE, Long.MIN_VALUE, 1L << 32, -3};
 
     private final Random random;
     private final int run;
     private final WasmSandbox x = new WasmSandbox();
     private final Reference y = new Reference();
+    private int left = CALLS;
     private static final int[] LOADS = new int[4], OUTCOMES = new int[10];
 
     private ReferenceTest(int run) {
@@ -35,14 +38,16 @@ public final class ReferenceTest {
         Kit.end();
     }
 
+    /** What one call answered. */
     private void due(String what, long got, long want, long... arguments) {
+        left--;
         if (got != want) {
             Kit.due("run " + run + ": " + what + Arrays.toString(arguments) + " with the bytes " + y.bytes, got, want);
         }
     }
 
     private void calls() {
-        for (int i = 0; i < 4; i++) {
+        while (left >= LOOK + BYTES) {
             feed();
             int slot = random.nextInt(2);
             bytes(slot);
@@ -50,13 +55,15 @@ public final class ReferenceTest {
             due("load", x.load(slot), outcome, slot);
             due("place", x.place(), y.place);
             LOADS[outcome]++;
-            for (int s = 0; s < 2; s++) {
-                for (int f = -1; f <= 7; f++) {
-                    invoke(s, f);
-                }
+            for (int n = random.nextInt(14); n > 0 && left >= LOOK + INVOKE; n--) {
+                invoke();
             }
-            state();
         }
+        while (left >= LOOK + INVOKE) {
+            invoke();
+        }
+        state();
+        Kit.due("calls that are left", left >= 0, true);
     }
 
     private void feed() {
@@ -90,9 +97,10 @@ public final class ReferenceTest {
         boolean loose = random.nextInt(4) == 0;
         int[] module = new Generator(random, loose).module(importTypes, whats);
         int[] spoilt = random.nextInt(3) == 0 ? spoil(module) : module;
+        due("clear", x.clear(), y.bytes.size());
         y.bytes.clear();
-        x.clear();
-        for (int b : spoilt) {
+        // Some are longer than an object holds.
+        for (int b : Arrays.copyOf(spoilt, Math.min(spoilt.length, 148))) {
             boolean want = y.bytes.size() < 140;
             if (want) {
                 y.bytes.add(b);
@@ -115,7 +123,14 @@ public final class ReferenceTest {
         return copy;
     }
 
-    private void invoke(int slot, int f) {
+    private void invoke() {
+        int slot = y.slots[1] == null ? 0 : random.nextInt(2);
+        int f = random.nextInt(9) - 1;
+        Reference.Module m = y.slots[slot];
+        // Most calls are of a function that is there.
+        if (m != null && m.size() > 0 && random.nextInt(8) > 0) {
+            f = m.size() - 1 - random.nextInt(m.size());
+        }
         long a = NUMBERS[random.nextInt(NUMBERS.length)];
         long b = NUMBERS[random.nextInt(NUMBERS.length)];
         long c = random.nextLong();

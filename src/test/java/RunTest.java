@@ -75,8 +75,8 @@ public final class RunTest {
 
     private static void ints() {
         for (int op = Kit.EQ; op <= Kit.SHRU; op++) {
-            WasmSandbox x = single("int " + op, Kit.b(1, 1), 1, Kit.GET, 0, Kit.GET, 1, op);
             for (long a : NUMBERS) {
+                WasmSandbox x = single("int " + op, Kit.b(1, 1), 1, Kit.GET, 0, Kit.GET, 1, op);
                 for (long b : NUMBERS) {
                     operation("int " + op, x, op, a, b, (int) a, (int) b, 32);
                 }
@@ -91,8 +91,8 @@ public final class RunTest {
     private static void longs() {
         for (int op = Kit.EQ; op <= Kit.SHRU; op++) {
             int r = op < Kit.ADD ? 1 : 2;
-            WasmSandbox x = single("long " + op, Kit.b(2, 2), r, Kit.GET, 0, Kit.GET, 1, op + Kit.L);
             for (long a : NUMBERS) {
+                WasmSandbox x = single("long " + op, Kit.b(2, 2), r, Kit.GET, 0, Kit.GET, 1, op + Kit.L);
                 for (long b : NUMBERS) {
                     operation("long " + op, x, op, a, b, a, b, 64);
                 }

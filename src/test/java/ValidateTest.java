@@ -31,12 +31,6 @@ public final class ValidateTest {
         Kit.loaded(what, Kit.single(NONE, 0, body));
     }
 
-    private static int[] many(int n, int... bytes) {
-        int[][] parts = new int[n][];
-        java.util.Arrays.fill(parts, bytes);
-        return Kit.join(parts);
-    }
-
     private static void numbers() {
         badBody("a label that is not there", 0, Kit.BR, 1);
         badBody("a label of BR_IF that is not there", 2, Kit.INT, 0, Kit.BR_IF, 1);
@@ -82,13 +76,13 @@ public final class ValidateTest {
         bad("a long EQZ gives an int", WITH + 3, Kit.single(NONE, 2, Kit.LONG, 0, Kit.EQZ + Kit.L));
         bad("a long LE gives an int", WITH + 5, Kit.single(NONE, 2, Kit.LONG, 0, Kit.LONG, 0, Kit.LE + Kit.L));
         bad("a long ADD gives a long", WITH + 5, Kit.single(NONE, 1, Kit.LONG, 0, Kit.LONG, 0, Kit.ADD + Kit.L));
-        fineBody("20 on the stack", Kit.join(many(20, Kit.INT, 0), many(20, Kit.DROP)));
-        badBody("21 on the stack", 40, Kit.join(many(21, Kit.INT, 0), many(21, Kit.DROP)));
-        fineBody("20 on the stack and a block's result for one", Kit.join(many(19, Kit.INT, 0), Kit.b(Kit.BLOCK, 1, Kit.INT, 0, Kit.END), many(20, Kit.DROP)));
-        badBody("20 around a block with one more", 42, Kit.join(many(20, Kit.INT, 0), Kit.b(Kit.BLOCK, 0, Kit.INT, 0, Kit.DROP, Kit.END), many(20, Kit.DROP)));
-        badBody("20 and the result of a dead block", 43, Kit.join(many(20, Kit.INT, 0), Kit.b(Kit.BLOCK, 1, Kit.TRAP, Kit.END), many(21, Kit.DROP)));
+        fineBody("20 on the stack", Kit.join(Kit.many(20, Kit.INT, 0), Kit.many(20, Kit.DROP)));
+        badBody("21 on the stack", 40, Kit.join(Kit.many(21, Kit.INT, 0), Kit.many(21, Kit.DROP)));
+        fineBody("20 on the stack and a block's result for one", Kit.join(Kit.many(19, Kit.INT, 0), Kit.b(Kit.BLOCK, 1, Kit.INT, 0, Kit.END), Kit.many(20, Kit.DROP)));
+        badBody("20 around a block with one more", 42, Kit.join(Kit.many(20, Kit.INT, 0), Kit.b(Kit.BLOCK, 0, Kit.INT, 0, Kit.DROP, Kit.END), Kit.many(20, Kit.DROP)));
+        badBody("20 and the result of a dead block", 43, Kit.join(Kit.many(20, Kit.INT, 0), Kit.b(Kit.BLOCK, 1, Kit.TRAP, Kit.END), Kit.many(21, Kit.DROP)));
         Kit.loaded("each body has a stack of its own", Kit.join(Kit.b(1, 0, 1, 1, 0), Kit.list(Kit.function(0, Kit.INT, 0),
-            Kit.function(0, Kit.join(many(20, Kit.INT, 0), many(19, Kit.ADD)))), Kit.NOTHING_BEHIND));
+            Kit.function(0, Kit.join(Kit.many(20, Kit.INT, 0), Kit.many(19, Kit.ADD)))), Kit.NOTHING_BEHIND));
         int[] calls = Kit.b(2, 2, 1, 2, 1, 2, 0, 0, 0, 2);
         int[] callee = Kit.function(0, Kit.GET, 1);
         Kit.loaded("a CALL", Kit.join(calls, callee, Kit.function(1, Kit.INT, 0, Kit.LONG, 0, Kit.CALL, 0, Kit.DROP), Kit.NOTHING_BEHIND));
@@ -99,11 +93,11 @@ public final class ValidateTest {
     }
 
     private static void frames() {
-        fineBody("8 open with the body", Kit.join(many(7, Kit.BLOCK, 0), many(7, Kit.END)));
-        badBody("9 open with the body", 14, Kit.join(many(8, Kit.BLOCK, 0), many(8, Kit.END)));
-        badBody("9 open, the last a LOOP", 14, Kit.join(many(7, Kit.BLOCK, 0), Kit.b(Kit.LOOP, 0), many(8, Kit.END)));
-        badBody("9 open, the last an IF", 16, Kit.join(many(7, Kit.BLOCK, 0), Kit.b(Kit.INT, 0, Kit.IF, 0), many(8, Kit.END)));
-        fineBody("8 open twice", Kit.join(many(7, Kit.BLOCK, 0), many(7, Kit.END), many(7, Kit.LOOP, 0), many(7, Kit.END)));
+        fineBody("8 open with the body", Kit.join(Kit.many(7, Kit.BLOCK, 0), Kit.many(7, Kit.END)));
+        badBody("9 open with the body", 14, Kit.join(Kit.many(8, Kit.BLOCK, 0), Kit.many(8, Kit.END)));
+        badBody("9 open, the last a LOOP", 14, Kit.join(Kit.many(7, Kit.BLOCK, 0), Kit.b(Kit.LOOP, 0), Kit.many(8, Kit.END)));
+        badBody("9 open, the last an IF", 16, Kit.join(Kit.many(7, Kit.BLOCK, 0), Kit.b(Kit.INT, 0, Kit.IF, 0), Kit.many(8, Kit.END)));
+        fineBody("8 open twice", Kit.join(Kit.many(7, Kit.BLOCK, 0), Kit.many(7, Kit.END), Kit.many(7, Kit.LOOP, 0), Kit.many(7, Kit.END)));
         badBody("an IF without its int", 0, Kit.IF, 0, Kit.END);
         badBody("an IF with a result and no ELSE", 6, Kit.INT, 0, Kit.IF, 1, Kit.INT, 0, Kit.END, Kit.DROP);
         badBody("the same, dead", 5, Kit.INT, 0, Kit.IF, 1, Kit.TRAP, Kit.END, Kit.DROP);
