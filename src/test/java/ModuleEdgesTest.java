@@ -356,6 +356,18 @@ public final class ModuleEdgesTest {
             calls.function(0, Kit.INT, 3).function(0, Kit.INT, 4).function(0, Kit.INT, 5).function(0, Kit.CALL, f);
             Kit.gives("CALL " + f, Kit.loaded("CALL " + f, calls.bytes()), 0, 6, f < 3 ? -1 : f);
         }
+        for (int print = 0; print < 3; print++) {
+            Mod host = new Mod().type(Kit.b(1)).type(NONE, 1);
+            for (int i = 0; i < 3; i++) {
+                host.imports(i == print ? 0 : 1, i == print ? 16 : 17);
+            }
+            host.function(1, Kit.INT, 9, Kit.CALL, print, Kit.CALL, print == 0 ? 1 : 0, Kit.CALL, print == 2 ? 1 : 2, Kit.SUB);
+            WasmSandbox y = Kit.loaded("print as import " + print, host.bytes());
+            Kit.due("feed", y.feed(30), true);
+            Kit.due("feed", y.feed(10), true);
+            Kit.gives("print as import " + print, y, 0, 3, 20);
+            Kit.due("what it printed", y.printed(0), 9);
+        }
     }
 
     private static void otherNumbers() {

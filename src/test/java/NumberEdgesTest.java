@@ -7,6 +7,7 @@ public final class NumberEdgesTest {
 
     public static void main(String[] args) {
         wrapping();
+        asTheNamesSay();
         signed();
         unsigned();
         shifts();
@@ -69,6 +70,30 @@ public final class NumberEdgesTest {
         longs(Kit.MUL, LEAST_LONG, -1, LEAST_LONG);
         longs(Kit.SHL, 1, 32, 1L << 32);
         longs(Kit.SHL, 3, 63, LEAST_LONG);
+    }
+
+    private static void asTheNamesSay() {
+        Kit.sentence("As the names say");
+        for (long v : new long[] {0, -1, LEAST, MOST}) {
+            ints(Kit.EQ, v, v, 1);
+            ints(Kit.NE, v, v, 0);
+            ints(Kit.EQ, v, v ^ 1, 0);
+            ints(Kit.NE, v, v ^ 1, 1);
+            longs(Kit.EQ, v, v, 1);
+            longs(Kit.NE, v, v, 0);
+            longs(Kit.EQ, v, v ^ 1L << 63, 0);
+            longs(Kit.NE, v, v ^ 1L << 32, 1);
+        }
+        ints(Kit.EQ, 5, 5 + (1L << 32), 1);
+        ints(Kit.AND, 12, 10, 8);
+        ints(Kit.OR, 12, 10, 14);
+        ints(Kit.XOR, 12, 10, 6);
+        ints(Kit.AND, LEAST, -1, LEAST);
+        ints(Kit.OR, LEAST, MOST, -1);
+        ints(Kit.XOR, LEAST, -1, MOST);
+        longs(Kit.AND, LEAST_LONG + 12, -1 << 3, LEAST_LONG + 8);
+        longs(Kit.OR, LEAST_LONG, MOST_LONG, -1);
+        longs(Kit.XOR, LEAST_LONG, -1, MOST_LONG);
     }
 
     private static void signed() {

@@ -161,6 +161,10 @@ public final class PromiseEdgesTest {
         Kit.due("clear", x.clear(), 140);
         Kit.due("put behind clear", x.put(0), true);
         Kit.due("clear of one", x.clear(), 1);
+        int[] data = one(0, Kit.many(125, Kit.NOP)).data(5, 77).bytes();
+        Kit.loads("140 bytes, the last of DATA", x, 0, WasmSandbox.OK, -1, data);
+        Kit.due("the number of its bytes", data.length, 140);
+        Kit.due("the last of DATA", x.memory(0, 5), 77);
     }
 
     private static void clearAnswers() {
@@ -174,6 +178,14 @@ public final class PromiseEdgesTest {
             Kit.due("clear again", x.clear(), 0);
             Kit.due("load of none", x.load(0), WasmSandbox.MALFORMED);
             Kit.due("place of none", x.place(), 0);
+        }
+        for (int rest : new int[] {5, 255}) {
+            WasmSandbox y = new WasmSandbox();
+            Kit.put(y, Kit.many(140, rest));
+            loads("what was removed is gone", y, 0, new Mod().data(0, 1));
+            for (int i = 0; i < 48; i++) {
+                Kit.due("byte " + i, y.memory(0, i), i == 0 ? 1 : 0);
+            }
         }
     }
 
@@ -207,14 +219,17 @@ public final class PromiseEdgesTest {
 
     private static void fresh() {
         Kit.sentence("with fresh globals and memory");
-        Mod module = one(0, Kit.INT, 5, Kit.GSET, 0, Kit.INT, 1, Kit.INT, 6, Kit.STORE8, 0, Kit.INT, 2, Kit.INT, 6, Kit.STORE8, 0).global(1, 1, 1).data(1, 9);
+        // Sets the global, and the bytes 0, 1 and 47.
+        int[] stores = {Kit.INT, 0, Kit.INT, 6, Kit.STORE8, 0, Kit.INT, 1, Kit.INT, 6, Kit.STORE8, 0, Kit.INT, 47, Kit.INT, 6, Kit.STORE8, 0};
+        Mod module = one(0, j(b(Kit.INT, 5, Kit.GSET, 0), stores)).global(1, 1, 1).data(1, 9);
         WasmSandbox x = Kit.loaded("module", module.bytes());
         for (int i = 0; i < 3; i++) {
             for (int slot = 0; slot <= 1; slot++) {
                 Kit.due("load", x.load(slot), WasmSandbox.OK);
                 Kit.due("a fresh global", x.global(slot, 0), 1);
                 Kit.due("a fresh byte of DATA", x.memory(slot, 1), 9);
-                Kit.due("a fresh byte without DATA", x.memory(slot, 2), 0);
+                Kit.due("a fresh byte without DATA", x.memory(slot, 0), 0);
+                Kit.due("the last fresh byte", x.memory(slot, 47), 0);
                 Kit.gives("run", x, slot, 0, 0);
                 Kit.due("the global that was set", x.global(slot, 0), 5);
                 Kit.due("the byte that was stored", x.memory(slot, 1), 6);
@@ -446,8 +461,9 @@ public final class PromiseEdgesTest {
 
     private static void mustBeThere() {
         Kit.sentence("which must be there");
-        for (int n = 0; n <= 4; n++) {
-            WasmSandbox x = Kit.loaded(n + " functions", withFunctions(0, n).bytes());
+        WasmSandbox x = new WasmSandbox();
+        for (int n = 4; n >= 0; n--) {
+            loads(n + " functions", x, 0, withFunctions(0, n));
             for (int what = 0; what <= 6; what++) {
                 Mod above = new Mod().type(NONE).imports(0, what);
                 boolean there = what < n;
@@ -639,6 +655,9 @@ public final class PromiseEdgesTest {
         Kit.due("BAD", x.invoke(1, 0, 0, 0, 0), WasmSandbox.BAD);
         Kit.due("behind BAD", x.trappedAt(), below.bodyAt(0, 1));
         Kit.gives("behind DONE", x, 1, 3, 1);
+        Mod diving = new Mod().type(b(1)).type(NONE).imports(1, 0).function(0, Kit.GET, 0, Kit.IF, 0, Kit.GET, 0, Kit.INT, 1, Kit.SUB, Kit.CALL, 1, Kit.ELSE, Kit.CALL, 0, Kit.END);
+        loads("diving", x, 1, diving);
+        Kit.traps("in slot 0, the tenth that is active", x, 1, 1, WasmSandbox.UNREACHABLE, below.bodyAt(0, 1), 8);
         int[] last = one(0, j(Kit.many(128, Kit.NOP), b(Kit.TRAP))).bytes();
         Kit.loads("140 bytes", x, 1, WasmSandbox.OK, -1, last);
         Kit.traps("far behind", x, 1, 0, WasmSandbox.UNREACHABLE, 1135);

@@ -25,6 +25,7 @@ public final class RunningEdgesTest {
         noOtherFuel();
         noneIsLeft();
         trapEnds();
+        trapLeavesNothing();
         callTrapsAt();
         staysDone();
         hostFunctions();
@@ -167,6 +168,12 @@ public final class RunningEdgesTest {
         int[] parameters = {1, 1, 1};
         Mod all = new Mod().type(parameters, 1).functionWith(0, parameters, Kit.GET, 3, Kit.GET, 4, Kit.OR, Kit.GET, 5, Kit.OR);
         Kit.gives("behind three parameters", load("three", all), 0, 0, 0, -1, -1, -1);
+        for (int v = 3; v <= 5; v++) {
+            Mod last = new Mod().type(parameters, 1).functionWith(0, parameters, Kit.GET, v, Kit.INT, 9, Kit.SET, v);
+            WasmSandbox y = load("variable " + v, last);
+            Kit.gives("variable " + v, y, 0, 0, 0);
+            Kit.gives("variable " + v + " again", y, 0, 0, 0);
+        }
     }
 
     // ---- Tables
@@ -268,6 +275,9 @@ public final class RunningEdgesTest {
             }
             Kit.gives("a new run begins with one", x, 0, 0, 0, 9);
         }
+        // f(n) = n + f(n - 1), by a BR out of a block to the body.
+        Mod sum = one(b(1), 1, Kit.BLOCK, 0, Kit.GET, 0, Kit.EQZ, Kit.BR_IF, 0, Kit.GET, 0, Kit.GET, 0, Kit.INT, 1, Kit.SUB, Kit.CALL, 0, Kit.ADD, Kit.BR, 1, Kit.END, Kit.INT, 5, Kit.BR, 0);
+        Kit.gives("the sum of 10 active", load("sum", sum), 0, 0, 50, 9);
         Mod flat = new Mod().type(NONE).function(0).function(0, Kit.many(20, Kit.CALL, 0));
         Kit.gives("20 calls behind one another", load("flat", flat), 0, 1, 0);
     }
@@ -378,6 +388,17 @@ public final class RunningEdgesTest {
         }
     }
 
+    /** More than all stacks could hold, if a run began where the one before it trapped. */
+    private static void trapLeavesNothing() {
+        Kit.sentence("A trap ends the run");
+        Mod module = one(b(1), 1, j(Kit.many(19, Kit.INT, 1), Kit.many(7, Kit.BLOCK, 0), b(Kit.GET, 0, Kit.BR_IF, 0, Kit.TRAP), Kit.many(7, Kit.END), Kit.many(18, Kit.ADD)));
+        WasmSandbox x = load("a full stack", module);
+        for (int i = 0; i < 60; i++) {
+            Kit.traps("run " + i, x, 0, 0, WasmSandbox.UNREACHABLE, module.bodyAt(0, 38 + 14 + 4), 0);
+        }
+        Kit.gives("a run behind them", x, 0, 0, 19, 1);
+    }
+
     private static void callTrapsAt() {
         Kit.sentence("DEPTH and FUEL of a call: the CALL or CALL_INDIRECT");
         // Function 1 of slot 1 dives to depth 10 and calls slot 0's function there; function 2 calls it in a loop.
@@ -389,6 +410,7 @@ public final class RunningEdgesTest {
             Kit.loads("above", x, 1, WasmSandbox.OK, -1, above.bytes());
             Kit.gives("10 active, the last in slot 0", x, 1, 1, 0, 8);
             Kit.traps("11 active, the last in slot 0", x, 1, 1, WasmSandbox.DEPTH, 1000 + above.bodyAt(0, down.length + call.length - 2), 9);
+            Kit.due("used by 11 active", x.used(), 9);
             Kit.gives("60 calls and 59 turns", x, 1, 2, 0, 60);
             Kit.due("used by them", x.used(), 119);
             Kit.traps("a call without fuel", x, 1, 2, WasmSandbox.FUEL, 1000 + above.bodyAt(1, 2 + call.length - 2), 61);

@@ -149,7 +149,10 @@ public final class ValidationEdgesTest {
         fine("20 behind a cut", j(twenty, b(Kit.TRAP), twenty, drops));
         bad("21 behind a cut", j(twenty, b(Kit.TRAP), twenty), j(I, b(Kit.TRAP)));
         fineFor(1, "20, one of them the result", j(twenty, b(Kit.RETURN)));
-        Kit.loaded("20 in each body", new Mod().type(NONE).function(0, j(twenty, b(Kit.TRAP))).function(0, j(twenty, b(Kit.TRAP))).bytes());
+        WasmSandbox x = Kit.loaded("20 in each body", new Mod().type(NONE, 1).function(0, j(twenty, b(Kit.RETURN))).function(0, j(twenty, b(Kit.RETURN))).bytes());
+        Mod tooMany = one(1, j(twenty, I, b(Kit.RETURN)));
+        Kit.loads("21", x, 0, WasmSandbox.INVALID, tooMany.bodyAt(0, 40), tooMany.bytes());
+        Kit.loads("20 behind a load with 21", x, 0, WasmSandbox.OK, -1, one(1, j(twenty, b(Kit.RETURN))).bytes());
     }
 
     /** With 20 below, whatever is given in a dead block is too much. */
@@ -193,6 +196,8 @@ public final class ValidationEdgesTest {
             fineFor(t, "a body that begins with a LOOP", j(b(Kit.LOOP, 0), x, b(Kit.BR, 1, Kit.END), x));
             badFor(t, "a body that begins with a LOOP wants its result", b(Kit.LOOP, 0), j(b(Kit.BR, 1, Kit.END), x));
         }
+        bad("a BLOCK before a LOOP", b(Kit.BLOCK, 1), Kit.BR, 0, Kit.END, Kit.DROP, Kit.LOOP, 0, Kit.END);
+        fine("a LOOP before a BLOCK", j(b(Kit.LOOP, 1, Kit.BR, 0, Kit.END, Kit.DROP, Kit.BLOCK, 0, Kit.END)));
         fine("a BLOCK without a result wants nothing", Kit.BLOCK, 0, Kit.BR, 0, Kit.END);
         fine("a body without a result wants nothing", Kit.BR, 0);
     }
@@ -234,6 +239,7 @@ public final class ValidationEdgesTest {
             bad("the same, dead", b(Kit.BLOCK, 1, Kit.BLOCK, 2, Kit.TRAP), j(table, b(Kit.DROP), I, b(Kit.END, Kit.DROP)));
             fine("label " + i + " wants alike", j(b(Kit.BLOCK, 2, Kit.BLOCK, 2), J, I, table, b(Kit.END, Kit.DROP)));
         }
+        bad("what stands behind six blocks and a BR_TABLE", j(Kit.many(6, Kit.BLOCK, 0), I, b(Kit.BR_TABLE, 0, 6), Kit.many(6, Kit.END)), Kit.DROP);
         fine("a LOOP with a result wants like a BLOCK without", j(b(Kit.BLOCK, 0, Kit.LOOP, 2), I, b(Kit.BR_TABLE, 1, 0, 1, Kit.END, Kit.DROP, Kit.END)));
     }
 
@@ -360,6 +366,13 @@ public final class ValidationEdgesTest {
             bad("9 with " + op + ", dead", j(Kit.many(7, open), b(Kit.TRAP)), j(b(op, 0), Kit.many(8, Kit.END)));
             fine("8 again with " + op, j(Kit.many(7, open), b(Kit.END), open, Kit.many(7, Kit.END)));
         }
+        int[] six = Kit.many(6, Kit.BLOCK, 0), ends = Kit.many(6, Kit.END);
+        bad("the eighth has its own height", j(six, I, b(Kit.BLOCK, 0)), j(b(Kit.DROP, Kit.END), ends));
+        bad("the eighth has its own height for EQZ", j(six, I, b(Kit.BLOCK, 0)), j(b(Kit.EQZ, Kit.DROP, Kit.END), ends));
+        fine("the eighth is dead for itself", j(six, I, b(Kit.BLOCK, 0), J, b(Kit.TRAP, Kit.EQZ, Kit.DROP, Kit.DROP, Kit.END, Kit.DROP), ends));
+        bad("the seventh is not dead with it", j(six, b(Kit.BLOCK, 0, Kit.TRAP, Kit.END)), j(b(Kit.DROP), ends));
+        fine("the eighth has its own result", j(six, b(Kit.BLOCK, 2), J, b(Kit.BR, 0, Kit.END, Kit.EQZ + L, Kit.DROP), ends));
+        bad("the eighth wants its own result", j(six, b(Kit.BLOCK, 2)), j(b(Kit.BR, 0, Kit.END, Kit.DROP), ends));
         int[] seven = j(Kit.many(7, Kit.BLOCK, 0), Kit.many(7, Kit.END));
         Kit.loaded("8 in each body", new Mod().type(NONE).function(0, seven).function(0, seven).bytes());
         bad("9 in the second body", new Mod().type(NONE).function(0).function(0, j(Kit.many(8, Kit.BLOCK, 0), Kit.many(8, Kit.END))), 1, 14);
@@ -408,6 +421,8 @@ public final class ValidationEdgesTest {
         WasmSandbox x = Kit.loaded("more functions before", new Mod().type(NONE).function(0).function(0).function(0).bytes());
         Mod one = one(0, Kit.CALL, 1);
         Kit.loads("a function of the module before", x, 0, WasmSandbox.INVALID, one.bodyAt(0, 0), one.bytes());
+        WasmSandbox y = Kit.loaded("a longer module before", new Mod().type(NONE).function(0, Kit.NOP, Kit.NOP).function(0).bytes());
+        Kit.loads("a function of the longer module before", y, 0, WasmSandbox.INVALID, one.bodyAt(0, 0), one.bytes());
     }
 
     private static void functionWithoutType() {
