@@ -6,6 +6,8 @@ public final class RunningEdgesTest {
     private static final int[] COUNT_DOWN = {Kit.GET, 0, Kit.INT, 1, Kit.SUB, Kit.TEE, 0};
 
     public static void main(String[] args) {
+        labels();
+        variables();
         ifs();
         leavesToTheEnd();
         likeReturn();
@@ -51,6 +53,34 @@ public final class RunningEdgesTest {
     /** A function int -> int with this body. */
     private static void is(String what, long want, long n, int... body) {
         Kit.gives(what, load(what, one(b(1), 1, body)), 0, 0, want, n);
+    }
+
+    private static void labels() {
+        Kit.sentence("d: a label: 0 the innermost open BLOCK, LOOP, IF or the body itself, 1 the next around it");
+        // Behind the END of the k-th frame from within, k is added; to leave by label d gives what is added behind it.
+        int[] opens = {Kit.BLOCK, 0, Kit.GET, 0, Kit.IF, 0, Kit.BLOCK, 0, Kit.GET, 0, Kit.IF, 0};
+        for (int d = 0; d <= 4; d++) {
+            int[] ends = NONE;
+            for (int k = 0; k < 4; k++) {
+                ends = j(ends, b(Kit.END, Kit.GET, 1, Kit.INT, 1 << k, Kit.ADD, Kit.SET, 1));
+            }
+            Mod module = new Mod().type(b(1), 1).functionWith(0, b(1), j(opens, b(Kit.INT, 0, Kit.BR, d), ends, b(Kit.GET, 1)));
+            Kit.gives("label " + d, load("label " + d, module), 0, 0, 15 >> d << d, 1);
+        }
+        // Behind an END a label counts from the next frame.
+        is("behind an END", 3, 0, Kit.BLOCK, 0, Kit.BLOCK, 0, Kit.END, Kit.BR, 0, Kit.END, Kit.INT, 3);
+        is("in a LOOP in a LOOP", 3, 0, Kit.LOOP, 0, Kit.LOOP, 0, Kit.INT, 3, Kit.BR, 2, Kit.END, Kit.END, Kit.TRAP);
+    }
+
+    private static void variables() {
+        Kit.sentence("v: the parameters, then the locals, of the function");
+        for (int p = 0; p <= 3; p++) {
+            for (int v = 0; v < p + 3; v++) {
+                int[] set = {Kit.LONG, 41, Kit.SET, p, Kit.LONG, 42, Kit.SET, p + 1, Kit.LONG, 43, Kit.SET, p + 2, Kit.GET, v};
+                Mod module = new Mod().type(Kit.many(p, 2), 2).functionWith(0, b(2, 2, 2), set);
+                Kit.gives("variable " + v + " behind " + p + " parameters", load("variables", module), 0, 0, v < p ? 11 + v : 41 + v - p, 11, 12, 13);
+            }
+        }
     }
 
     private static void ifs() {

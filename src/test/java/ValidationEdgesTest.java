@@ -391,7 +391,7 @@ public final class ValidationEdgesTest {
     // ---- Numbers that are not there
 
     private static void labelNumbers() {
-        Kit.sentence("Numbers of labels .. that are not there: INVALID");
+        Kit.sentence("Numbers of labels .. that are not there .. : INVALID");
         for (int open = 0; open <= 7; open++) {
             int[] blocks = Kit.many(open, Kit.BLOCK, 0), ends = Kit.many(open, Kit.END);
             fine("BR to the outermost", j(blocks, b(Kit.BR, open), ends));
@@ -411,7 +411,7 @@ public final class ValidationEdgesTest {
     }
 
     private static void functionNumbers() {
-        Kit.sentence("Numbers of .. functions .. that are not there: INVALID");
+        Kit.sentence("Numbers of .. functions .. that are not there .. : INVALID");
         bad("one function: 1", NONE, Kit.CALL, 1);
         bad("one function: 255", NONE, Kit.CALL, 255);
         bad("one function: 1, dead", b(Kit.TRAP), Kit.CALL, 1);
@@ -434,7 +434,7 @@ public final class ValidationEdgesTest {
     }
 
     private static void typeNumbers() {
-        Kit.sentence("Numbers of .. types .. that are not there: INVALID");
+        Kit.sentence("Numbers of .. types .. that are not there .. : INVALID");
         for (int type : new int[] {1, 2, 4, 255}) {
             bad("type " + type, I, Kit.CALL_INDIRECT, type);
             bad("type " + type + ", dead", b(Kit.TRAP), Kit.CALL_INDIRECT, type);
@@ -444,7 +444,7 @@ public final class ValidationEdgesTest {
     }
 
     private static void variableNumbers() {
-        Kit.sentence("Numbers of .. variables .. that are not there: INVALID");
+        Kit.sentence("Numbers of .. variables .. that are not there .. : INVALID");
         for (int p = 0; p <= 3; p++) {
             for (int l = 0; l <= 3; l++) {
                 int[] parameters = Kit.many(p, 1), locals = Kit.many(l, 1);
@@ -462,7 +462,7 @@ public final class ValidationEdgesTest {
     }
 
     private static void globalNumbers() {
-        Kit.sentence("Numbers of .. globals that are not there: INVALID");
+        Kit.sentence("Numbers of .. globals that are not there .. : INVALID");
         for (int n = 0; n <= 3; n++) {
             for (int g : new int[] {n, n + 1, 255}) {
                 bad("GGET " + g, withGlobals(n, Kit.GGET, g, Kit.DROP), 0, 0);
