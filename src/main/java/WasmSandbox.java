@@ -297,11 +297,11 @@ public final class WasmSandbox {
             return p + 3 + byteAt(m, p + 1);
         }
         if (op == CONST_INT || op == CONST_LONG) {
-            int last = p + 1;
-            for (int i = 1; i < LONG_CONST_BYTES && byteAt(m, last) > 127; i++) {
-                last++;
+            int end = p + 1;
+            for (int i = 1; i < LONG_CONST_BYTES && byteAt(m, end) > 127; i++) {
+                end++;
             }
-            return last + 1;
+            return end + 1;
         }
         return hasOperand(op) ? p + 2 : p + 1;
     }

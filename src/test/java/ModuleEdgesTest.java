@@ -285,6 +285,9 @@ public final class ModuleEdgesTest {
         elseAt("behind an IF", 5, Kit.INT, 0, Kit.IF, 0, Kit.END, Kit.ELSE);
         Mod second = new Mod().type(NONE).function(0, Kit.INT, 0, Kit.IF, 0, Kit.END).function(0, Kit.ELSE);
         malformed("in the next body", second.bodyAt(1, 0), second.bytes());
+        // Where the body of the module before began there is a 4 now, but no IF.
+        WasmSandbox x = Kit.loaded("a body before", new Mod().type(NONE).function(0).bytes());
+        Kit.loads("behind a 4 that is no IF", x, 0, WasmSandbox.MALFORMED, 8, 0, 0, 1, 0, 0, Kit.NOP, Kit.INT, Kit.IF, Kit.ELSE, Kit.END, 0, 0, 0);
     }
 
     private static void globals() {

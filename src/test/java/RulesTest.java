@@ -103,7 +103,17 @@ public final class RulesTest {
         while (made.find()) {
             must("an array of a constant length: " + made.group(), made.group().matches("new (int|long|boolean)\\[[A-Z_]+\\];"));
         }
+        loops(text);
         methods(text);
+    }
+
+    /** Each loop counts, up or down, against a bound in its own line. */
+    private static void loops(String text) {
+        must("no loop but for", !Pattern.compile("\\b(while|do)\\b").matcher(text).find());
+        Matcher m = Pattern.compile("\\bfor \\([^{]*\\{").matcher(text);
+        while (m.find()) {
+            must("a counter against a bound: " + m.group(), m.group().matches("for \\(int (\\w+) = [^;]+; \\1 (<|<=|>|>=) [^;]+; \\1(\\+\\+|--)\\) \\{"));
+        }
     }
 
     private static void methods(String text) {
