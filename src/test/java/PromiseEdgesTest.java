@@ -461,8 +461,9 @@ public final class PromiseEdgesTest {
 
     private static void mustBeThere() {
         Kit.sentence("which must be there");
-        WasmSandbox x = new WasmSandbox();
-        for (int n = 4; n >= 0; n--) {
+        for (int n = 0; n <= 4; n++) {
+            // What the module before had is there no longer.
+            WasmSandbox x = Kit.loaded("more functions before", withFunctions(0, 4).bytes());
             loads(n + " functions", x, 0, withFunctions(0, n));
             for (int what = 0; what <= 6; what++) {
                 Mod above = new Mod().type(NONE).imports(0, what);
