@@ -51,10 +51,11 @@ public final class ReferenceTest {
             feed();
             int slot = random.nextInt(2);
             bytes(slot);
-            int outcome = y.load(slot);
-            due("load", x.load(slot), outcome, slot);
-            due("place", x.place(), y.place);
-            LOADS[outcome]++;
+            load(slot);
+            // The bytes stay, so they may become the module of the other slot as well.
+            if (random.nextInt(5) == 0) {
+                load(1 - slot);
+            }
             for (int n = random.nextInt(14); n > 0 && left >= LOOK + INVOKE; n--) {
                 invoke();
             }
@@ -64,6 +65,13 @@ public final class ReferenceTest {
         }
         state();
         Kit.due("calls that are left", left >= 0, true);
+    }
+
+    private void load(int slot) {
+        int outcome = y.load(slot);
+        due("load", x.load(slot), outcome, slot);
+        due("place", x.place(), y.place);
+        LOADS[outcome]++;
     }
 
     private void feed() {
@@ -94,6 +102,9 @@ public final class ReferenceTest {
                 whats.add(f);
             }
         }
+        if (!whats.isEmpty() && random.nextInt(8) == 0) {
+            misfit(importTypes, whats);
+        }
         boolean loose = random.nextInt(4) == 0;
         int[] module = new Generator(random, loose).module(importTypes, whats);
         int[] spoilt = random.nextInt(3) == 0 ? spoil(module) : module;
@@ -106,6 +117,18 @@ public final class ReferenceTest {
                 y.bytes.add(b);
             }
             due("put", x.put(b) ? 1 : 0, want ? 1 : 0);
+        }
+    }
+
+    /** One import gets another type or names something else; at times it fits even so. */
+    private void misfit(List<int[]> importTypes, List<Integer> whats) {
+        int i = random.nextInt(whats.size());
+        if (random.nextInt(2) == 0) {
+            int[] what = {0, 1, 2, 3, 4, 5, 6, 7, 15, 16, 17, 18, 255};
+            whats.set(i, what[random.nextInt(what.length)]);
+        } else {
+            int[][] types = {{0, 0}, {0, 1}, {0, 2}, {1, 1, 0}, {1, 2, 0}, {1, 1, 1}, {2, 1, 1, 0}};
+            importTypes.set(i, types[random.nextInt(types.length)]);
         }
     }
 
